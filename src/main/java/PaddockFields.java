@@ -41,10 +41,12 @@ public final class PaddockFields {
         history = new History();
         text = new InputText();
         maker = new Maker();
-        rectangles = new Rectangles();
-        steps = new Steps(rectangles);
-        numberSearch = new NumberSearch(rectangles);
-        cellSearch = new CellSearch(rectangles);
+        // one list for all who look for rectangles, for it is the largest part of the object
+        Rectangles shared = new Rectangles();
+        rectangles = shared;
+        steps = new Steps(shared);
+        numberSearch = new NumberSearch(shared);
+        cellSearch = new CellSearch(shared);
     }
 
     // ---- numbers
@@ -800,7 +802,7 @@ public final class PaddockFields {
             count = 0;
             put(0, CELLS - 1);
             cutAll();
-            for (int i = 0; i < count; i++) {
+            for (int i = 0; i < count && i < CELLS; i++) {
                 int size = sizeOf(first[i], last[i]);
                 board.setNumber(cellInside(first[i], last[i], drawBelow(size)), size);
             }
@@ -818,7 +820,7 @@ public final class PaddockFields {
         }
 
         private int firstLarge() {
-            for (int i = 0; i < count; i++) {
+            for (int i = 0; i < count && i < CELLS; i++) {
                 if (sizeOf(first[i], last[i]) > LARGEST) {
                     return i;
                 }
@@ -927,25 +929,26 @@ public final class PaddockFields {
         }
 
         int firstAt(int i) {
-            return i >= 0 && i < count ? first[i] : NO_CELL;
+            return i >= 0 && i < count && i < MOST_RECTANGLES ? first[i] : NO_CELL;
         }
 
         int lastAt(int i) {
-            return i >= 0 && i < count ? last[i] : NO_CELL;
+            return i >= 0 && i < count && i < MOST_RECTANGLES ? last[i] : NO_CELL;
         }
 
         long cellsAt(int i) {
-            return i >= 0 && i < count ? cells[i] : 0L;
+            return i >= 0 && i < count && i < MOST_RECTANGLES ? cells[i] : 0L;
         }
 
         int ownerAt(int i) {
-            return i >= 0 && i < count ? owner[i] : NO_CELL;
+            return i >= 0 && i < count && i < MOST_RECTANGLES ? owner[i] : NO_CELL;
         }
 
         long cellsInReach(long covered) {
             long reach = 0L;
             for (int i = 0; i < count; i++) {
-                reach |= (cells[i] & covered) == 0L ? cells[i] : 0L;
+                long inside = cellsAt(i);
+                reach |= (inside & covered) == 0L ? inside : 0L;
             }
             return reach;
         }
@@ -1066,8 +1069,8 @@ public final class PaddockFields {
 
         private static long inAny(long[] sets) {
             long any = 0L;
-            for (long set : sets) {
-                any |= set;
+            for (int i = 0; i < sets.length; i++) {
+                any |= sets[i];
             }
             return any;
         }
@@ -1075,9 +1078,9 @@ public final class PaddockFields {
         private static long inJustOne(long[] sets) {
             long any = 0L;
             long more = 0L;
-            for (long set : sets) {
-                more |= any & set;
-                any |= set;
+            for (int i = 0; i < sets.length; i++) {
+                more |= any & sets[i];
+                any |= sets[i];
             }
             return any & ~more;
         }
@@ -1268,7 +1271,7 @@ public final class PaddockFields {
 
     /** The hash of a list of values. */
     private static final class Hash {
-        private static final double TWO_TO_52 = 4503599627370496.0;
+        private static final long TWO_TO_52 = 1L << 52;
         private static final int MOST_HALVINGS = 1100;
 
         private long value;
@@ -1304,7 +1307,7 @@ public final class PaddockFields {
                 rest = rest * 2.0;
                 exponent--;
             }
-            return (exponent << 52) | (long) ((rest - 1.0) * TWO_TO_52);
+            return (exponent << 52) | (long) ((rest - 1.0) * (double) TWO_TO_52);
         }
     }
 }

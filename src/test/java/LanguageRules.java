@@ -23,6 +23,8 @@ public final class LanguageRules {
             "java/lang/IllegalStateException.<init>", "java/lang/IllegalArgumentException.<init>",
             "java/lang/IndexOutOfBoundsException.<init>");
 
+    private static final Set<String> CONSTANTS = Set.of("int", "long", "boolean", "char", "java.lang.String");
+
     private LanguageRules() {
     }
 
@@ -91,6 +93,8 @@ public final class LanguageRules {
             boolean constant = Modifier.isStatic(field.getModifiers());
             own += constant ? 0 : 1;
             Check.due(field + " is final if static", true, () -> !constant || Modifier.isFinal(field.getModifiers()));
+            Check.due(field + " is of a constant's type", true,
+                    () -> !constant || CONSTANTS.contains(field.getType().getName()));
             Check.due(field + " is private", true, () -> Modifier.isPrivate(field.getModifiers()));
         }
         int fields = own;

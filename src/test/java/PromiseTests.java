@@ -130,12 +130,17 @@ public final class PromiseTests {
         Check.due("3: seed 0", 9, () -> x.make(0));
         Check.due("3: numbers of seed 0", ".2...../....4.6/66.4.../......./.4....6/....4..", () -> rowsOf(x));
         Check.due("3: fields are taken away", 0, x::fields);
-        Check.due("3: undoable", 6, x::savedStates);
         Check.due("3: seed 999999", 10, () -> x.make(999999));
         Check.due("3: its numbers", "4..2.../......6/......./4..64.2/.46..../......4", () -> rowsOf(x));
         Check.due("3: seed 1", 10, () -> x.make(1));
         Check.due("3: its numbers", "3...4../6..43../....3../..3...6/......./..6...4", () -> rowsOf(x));
         Check.due("3: the sum", 42, x::sum);
+        x.undo();
+        Check.due("3: undoable", 10, x::numbers);
+        x.undo();
+        x.undo();
+        Check.due("3: fields, too", 1, x::fields);
+        x.make(1);
         Check.due("3: seed -1", Check.ARGUMENT, () -> x.make(-1));
         Check.due("3: seed 1000000", Check.ARGUMENT, () -> x.make(1000000));
         Check.due("3: nothing changed", 42, x::sum);
@@ -190,6 +195,9 @@ public final class PromiseTests {
         x.undo();
         Check.due("5: undoable", 2, x::fields);
         Check.due("5: by its first cell", 7, () -> x.erase(2, 0));
+        x.draw(0, 0, 0, 6);
+        Check.due("5: the first row", 7, () -> x.erase(0, 3));
+        Check.due("5: its first cell, too", false, () -> x.isInField(0, 0));
     }
 
     // ---- promise 6
@@ -233,6 +241,9 @@ public final class PromiseTests {
         Check.due("7: nothing drawn", 0, hole::fields);
         PaddockFields full = board(ONES);
         Check.due("7: all", 42, full::settle);
+        full.undo();
+        Check.due("7: undoable", 0, full::fields);
+        full.settle();
         Check.due("7: none on a full board", 0, full::settle);
     }
 
@@ -247,6 +258,7 @@ public final class PromiseTests {
         Check.due("8: the first way", 7, () -> x.cornerOf(1, 1));
         Check.due("8: nothing more", 0, x::finish);
         x.undo();
+        Check.due("8: undoable, though nothing is changed", 40, x::fields);
         x.undo();
         Check.due("8: undoable", 1, x::fields);
         x.draw(0, 0, 1, 0);
@@ -606,6 +618,8 @@ public final class PromiseTests {
         Check.due("36: all but two", 38, x::certain);
         Check.due("37: the first one", 2, x::hint);
         x.settle();
+        Check.due("36: the first cell's", 42, () -> board(ONES).certain());
+        Check.due("37: the first cell's", 0, () -> board(ONES).hint());
         Check.due("36: none", 0, x::certain);
         Check.due("37: none", Check.STATE, x::hint);
         PaddockFields y = board(ONE_ROUND);
@@ -748,6 +762,20 @@ public final class PromiseTests {
         Check.due("45: again", emptyHash(1, 0, 1, '.', 'x'), x::digest);
         digestOfRows();
         digestOfNumber();
+        Check.due("45: a mean of 2", true, () -> {
+            Model m = new Model();
+            PaddockFields y = new PaddockFields();
+            m.write(0, 0, 2);
+            y.write(0, 0, 2);
+            return y.meanPossible() == 2.0 && m.digest() == y.digest();
+        });
+        Check.due("45: a mean of 17", true, () -> {
+            Model m = new Model();
+            PaddockFields y = new PaddockFields();
+            m.write(2, 3, 20);
+            y.write(2, 3, 20);
+            return y.meanPossible() == 17.0 && m.digest() == y.digest();
+        });
     }
 
     private static void digestOfRows() {
