@@ -366,7 +366,7 @@ public final class PaddockFields {
     private void addCell(Hash hash, int cell) {
         boolean inField = board.hasField(cell);
         hash.add(board.numberIn(cell));
-        hash.add(inField ? board.sizeOfField(cell) : 0);
+        hash.add(inField ? board.sizeOfField(cell) + 1 : 0);
         hash.add(inField ? board.firstOfField(cell) + 1 : 0);
         hash.add(rectangles.countOf(cell));
         for (int i = 0; i < rectangles.size(); i++) {

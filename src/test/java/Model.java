@@ -668,7 +668,7 @@ final class Model {
             int c = cell;
             Rect field = state.fieldOf(cell);
             values.add((long) state.number(cell));
-            values.add(field == null ? 0L : field.cells());
+            values.add(field == null ? 0L : field.cells() + 1L);
             values.add(field == null ? 0L : field.corner() + 1L);
             List<Rect> own = possible.getOrDefault(cell, List.of());
             values.add((long) own.size());

@@ -761,6 +761,7 @@ public final class PromiseTests {
         Check.due("45: saved states", emptyHash(1, 0, 1, '.', 'x'), x::digest);
         Check.due("45: again", emptyHash(1, 0, 1, '.', 'x'), x::digest);
         digestOfRows();
+        digestOfLastCell();
         digestOfNumber();
         Check.due("45: a mean of 2", true, () -> {
             Model m = new Model();
@@ -786,7 +787,7 @@ public final class PromiseTests {
             int row = cell / 7;
             boolean number = x.numberAt(row, cell % 7) != 0;
             boolean open = row > 0;
-            hash = hash(hash, number ? 7 : 0, open ? 0 : 7, open ? 0 : 1, number && open ? 1 : 0);
+            hash = hash(hash, number ? 7 : 0, open ? 0 : 7 + 1, open ? 0 : 0 + 1, number && open ? 1 : 0);
             if (number && open) {
                 hash = hash(hash, 42L * 7 * row + 7L * row + 6);
             }
@@ -799,6 +800,19 @@ public final class PromiseTests {
         }
         hash = hash(hash, 6, Double.doubleToLongBits(1.0), 0, 0, 0);
         Check.due("45: rows with a field", hash, x::digest);
+    }
+
+    private static void digestOfLastCell() {
+        PaddockFields x = new PaddockFields();
+        x.write(5, 6, 1);
+        x.draw(5, 6, 5, 6);
+        long hash = hash(4421, new long[41 * 7]);
+        hash = hash(hash, 1, 1 + 1, 41 + 1, 0, 0, 0, 0);
+        hash = hash(hash, 1, 1, 1, 41, 0, 0, 0, 1, 0, 0, 0, 0, 2, 0, 0, 0, 0);
+        Check.due("45: size and corner of a field with 1 more", hash, x::digest);
+        x.erase(5, 6);
+        x.write(5, 6, 0);
+        Check.due("45: in no field, 0 and 0", emptyHash(4, 0, 0), x::digest);
     }
 
     private static void digestOfNumber() {
