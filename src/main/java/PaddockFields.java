@@ -521,6 +521,9 @@ public final class PaddockFields {
         }
 
         void copy(Board other) {
+            if (other == null) {
+                return;
+            }
             for (int cell = 0; cell < CELLS; cell++) {
                 number[cell] = other.number[cell];
                 inField[cell] = other.inField[cell];
@@ -681,7 +684,7 @@ public final class PaddockFields {
             if (count >= MOST_SAVED) {
                 dropOldest();
             }
-            if (count >= 0 && count < MOST_SAVED) {
+            if (count >= 0 && count < MOST_SAVED && saved[count] != null) {
                 saved[count].copy(board);
                 count++;
             }
@@ -709,7 +712,7 @@ public final class PaddockFields {
         }
 
         void store(int slot, Board board) {
-            if (slot >= 0 && slot < SLOTS) {
+            if (slot >= 0 && slot < SLOTS && snapshot[slot] != null) {
                 snapshot[slot].copy(board);
                 filled[slot] = true;
             }

@@ -631,6 +631,11 @@ final class Model {
         return waysOf(state).size() >= MANY || waysOf(new State(state.numbers, new HashSet<>())).size() >= MANY;
     }
 
+    /** All of them, if they are not too many. */
+    int allWays() {
+        return waysOf(state).size();
+    }
+
     int ways() {
         return Math.min(50, waysOf(state).size());
     }

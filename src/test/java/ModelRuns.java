@@ -2,7 +2,7 @@ import java.util.ArrayList;
 import java.util.List;
 import java.util.Random;
 
-/** Random runs of calls, the program's answers beside the model's; the seeds are fixed, so that each run is the same. */
+/** Random runs of calls, the program's answers beside the model's; the seeds are fixed: each run is the same. */
 public final class ModelRuns {
     private static final int RUNS = 60;
     private static final int CALLS = 120;
